@@ -12,7 +12,8 @@ public final class MarbleVotes {
     /** In the order in which the document tells them. */
     private static final int NOTHING = 0, PEG = 1, LEANS_LEFT = 2, LEANS_RIGHT = 3, DAM = 4, SIGNS = 5;
 
-    private static final int BYTES = 0, SHORTS = 1, INTS = 2, LANES = 3;
+    /** The third lane, ints, is the one that cuts nothing. */
+    private static final int BYTES = 0, SHORTS = 1, LANES = 3;
 
     private static final int HIGHEST = 5, NARROWEST = 2, WIDEST = 6, MOST_CELLS = HIGHEST * WIDEST;
     private static final int PARTIES = 4, MOST_VOTES = 8, SHEETS = 4, LONGEST = 60;
@@ -288,8 +289,8 @@ public final class MarbleVotes {
         if (what < 0 || what > 1 || !hill.stands()) {
             return LOST;
         }
-        // Each dam that is come to must go, and none is come to but by those above it that went:
-        // so to be freed are the dams that votes come to where all dams let them pass.
+        // A dam that votes come to must go, and then they come to those below it: so to be freed
+        // are the dams that votes come to where all dams let them pass.
         return flow.damsReached(what == 0);
     }
 
@@ -773,6 +774,12 @@ public final class MarbleVotes {
             return left;
         }
 
+        private void appraiseAll(int p) {
+            for (int kind = 0; kind < KINDS; kind++) {
+                appraise(kind, p);
+            }
+        }
+
         private void appraise(int kind, int p) {
             int cells = hill.cells();
             for (int t = 0; t < hill.wide; t++) {
@@ -797,9 +804,7 @@ public final class MarbleVotes {
         }
 
         int expected(int p) {
-            for (int kind = 0; kind < KINDS; kind++) {
-                appraise(kind, p);
-            }
+            appraiseAll(p);
             int all = 0;
             for (int v = 0; v < votes.count; v++) {
                 all += worth[votes.kinds[v]][votes.columns[v]];
@@ -821,9 +826,7 @@ public final class MarbleVotes {
         /** Ten times the cell and the sign, or NONE. */
         int bestMove(int p) {
             dropAll(true);
-            for (int kind = 0; kind < KINDS; kind++) {
-                appraise(kind, p);
-            }
+            appraiseAll(p);
             long most = 0;
             int best = NONE;
             for (int c = 0; c < hill.cells(); c++) {

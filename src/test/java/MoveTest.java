@@ -63,6 +63,9 @@ public final class MoveTest {
         check.due("more by leading away two votes", x.move(1), 22);
         x.set(5, 0);
         check.due("two votes that lean", x.move(1), 22);
+        x = Hills.made("m23012;.#.;#..", 0, 1);
+        check.due("a vote at a dam does not come to the cell below", x.move(0), MarbleVotes.NONE);
+        check.due("the dam is in the way", x.move(1), 10);
         check.due("one vote", x.move(0), MarbleVotes.NONE);
     }
 
@@ -89,6 +92,17 @@ public final class MoveTest {
         check.due("answer(1, 2): the upper cell again", x.answer(1, 2), 13);
         check.due("the votes are as they were", x.many(2), 1);
         check.due("the sign is as it was", x.sign(1), 2);
+        x = Hills.made("m23012;...;..#", 2, 2, 0, 0);
+        check.due("move(2) in the lower row", x.move(2), 50);
+        check.due("answer(2, 1) by the upper row", x.answer(2, 1), 3);
+        check.due("answer(2, 0) has none", x.answer(2, 0), MarbleVotes.NONE);
+        x.back(1);
+        x.vote(0, 2);
+        check.due("answer(2, 1) by two votes in the same cell", x.answer(2, 1), 22);
+        x = Hills.made("m23012;...;..#", 0, 2);
+        check.due("move(1) leads it round the dam", x.move(1), 22);
+        check.due("answer(1, 2) leads it on", x.answer(1, 2), 43);
+        check.due("the sign is as it was", x.sign(2), 0);
     }
 
     private static void answerRefusals() {

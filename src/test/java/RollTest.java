@@ -126,6 +126,8 @@ public final class RollTest {
         chanceIs(x, 2, 5, 1, 32);
         x.wet(true);
         chanceIs(x, 2, 5, 243, 32768);
+        x.vote(1, 0);
+        chanceIs(x, 3, 5, 1, 32768);
         x.set(0, 4);
         chanceIs(x, 2, -1, 1, 1);
         x.set(0, 1);

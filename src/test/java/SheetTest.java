@@ -99,6 +99,7 @@ public final class SheetTest {
         int[][] calls = {{4, 9, 3, 0}, {-1, 0, 0, 0}, {0, 9, 3, 0}, {0, 9, -1, 0}, {1, 9, 2, 1}, {0, 9, 1, 2},
             {0, 2, 0, 3}, {0, -1, 0, 3}};
         for (int[] of : calls) {
+            x.put(1, 0, 0);
             check.due("cell", x.cell(of[0], of[1], of[2]), MarbleVotes.LOST);
             check.due("fault() of cell(" + of[0] + ", " + of[1] + ", " + of[2] + ")", x.fault(), of[3]);
         }

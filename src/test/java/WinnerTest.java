@@ -38,6 +38,8 @@ public final class WinnerTest {
         check.due("tally(3)", x.tally(3), 0);
         x.set(3, 0);
         check.due("tally(0) without the dam", x.tally(0), 4);
+        x.back(1);
+        check.due("tally(0) without the one that is taken back", x.tally(0), 3);
         check.due("tally(4)", x.tally(4), MarbleVotes.UNKNOWN);
         check.due("tally(-1)", x.tally(-1), MarbleVotes.UNKNOWN);
     }
