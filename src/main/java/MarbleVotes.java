@@ -670,7 +670,8 @@ public final class MarbleVotes {
                 return 0;
             }
             if (sign == PEG) {
-                return partsToASide(kind) + (wet ? 1 : 0);
+                int dry = kind == MARBLE ? 4 : 2;
+                return wet ? dry + 1 : dry;
             }
             return sign == LEANS_LEFT ? PARTS : 0;
         }
@@ -680,13 +681,10 @@ public final class MarbleVotes {
                 return 0;
             }
             if (sign == PEG) {
-                return partsToASide(kind) - (wet ? 1 : 0);
+                int dry = kind == MARBLE ? 4 : 2;
+                return wet ? dry - 1 : dry;
             }
             return sign == LEANS_RIGHT ? PARTS : 0;
-        }
-
-        private static int partsToASide(int kind) {
-            return kind == MARBLE ? 4 : 2;
         }
 
         /** The place in the next row to which a vote goes from a cell by a draw. */
