@@ -86,6 +86,9 @@ public final class MoveTest {
         check.due("sign(1) is as it was", x.sign(1), 1);
         x.set(1, 2);
         check.due("answer(0, 1): the first has all", x.answer(0, 1), 10);
+        x = Hills.made("m1201;r.", 0, 0);
+        check.due("answer(3, 1): neither has a move, cell 0 stays", x.answer(3, 1), MarbleVotes.NONE);
+        check.due("answer(3, 0): as it is", x.answer(3, 0), 0);
         x = Hills.made("m23012;.l.;...", 0, 1);
         check.due("move(1)", x.move(1), 10);
         check.due("answer(1, 0): the same cell set back", x.answer(1, 0), 12);

@@ -4,7 +4,9 @@ public final class RollTest {
 
     public static void main(String[] args) {
         rollByOneDraw();
+        rollAtTheEdges();
         rollDownRows();
+        rollTellsTheFirstDraw();
         rollRefusalsInOrder();
         chanceOfOneRow();
         chanceDownRows();
@@ -28,6 +30,58 @@ public final class RollTest {
                 check.due("wet roll of kind " + kind + " by " + draw,
                     x.roll(kind, 1, Hills.BYTES, draw), wet[kind].charAt(draw) - '0');
             }
+        }
+    }
+
+    /** Two columns: each is at an edge. */
+    private static void rollAtTheEdges() {
+        String[][] dry = {{"00001111", "00000011", "00000000"}, {"00001111", "00111111", "11111111"}};
+        String[][] wet = {{"00000111", "00000001", "00000000"}, {"00000111", "00011111", "11111111"}};
+        for (int column = 0; column < 2; column++) {
+            MarbleVotes x = Hills.made("m1201;pp", 0, column, 1, column, 2, column);
+            Hills.write(x, 1, Hills.BYTES, 0, 1, 2, 3, 4, 5, 6, 7);
+            for (int kind = 0; kind < 3; kind++) {
+                for (int draw = 0; draw < 8; draw++) {
+                    x.wet(false);
+                    check.due("dry roll of kind " + kind + " from " + column + " by " + draw,
+                        x.roll(kind, 1, Hills.BYTES, draw), dry[column][kind].charAt(draw) - '0');
+                    x.wet(true);
+                    check.due("wet roll of kind " + kind + " from " + column + " by " + draw,
+                        x.roll(kind, 1, Hills.BYTES, draw), wet[column][kind].charAt(draw) - '0');
+                }
+            }
+        }
+    }
+
+    /** Of a draw that is outside and one that is not there, the one that is come to. */
+    private static void rollTellsTheFirstDraw() {
+        MarbleVotes x = Hills.made("m33012;ppp;.p.;ppp", 2, 0, 2, 1);
+        for (int lane = 0; lane < 3; lane++) {
+            Hills.write(x, 1, lane, 3, 8);
+            check.due("the second draw is outside", x.roll(0, 1, lane, 0), MarbleVotes.OUTSIDE);
+            check.due("fault()", x.fault(), 0);
+            check.due("outside, and no second draw is there", x.roll(0, 1, lane, 1), MarbleVotes.OUTSIDE);
+            check.due("fault()", x.fault(), 0);
+            check.due("outside, and no third draw is there", x.roll(1, 1, lane, 0), MarbleVotes.OUTSIDE);
+            Hills.write(x, 1, lane, 3, 7);
+            check.due("two draws for two pegs", x.roll(0, 1, lane, 0), 0);
+            check.due("two draws for three pegs", x.roll(1, 1, lane, 0), Hills.INDEX);
+            check.due("fault()", x.fault(), 3);
+            x.set(4, 4);
+            check.due("one draw, the second peg is a dam", x.roll(1, 1, lane, 0), MarbleVotes.NONE);
+            check.due("the last draw, the next peg is a dam", x.roll(1, 1, lane, 1), MarbleVotes.NONE);
+            check.due("none is there for the first peg", x.roll(1, 1, lane, 2), Hills.INDEX);
+            x.set(4, 1);
+        }
+        // What comes to a cell is cut to its lane: so is a draw.
+        int[] cut = {256 + 5, 65536 + 5, 5};
+        for (int lane = 0; lane < 3; lane++) {
+            Hills.write(x, 1, lane, cut[lane], cut[lane]);
+            check.due("draws that are cut", x.roll(0, 1, lane, 0), 0);
+            Hills.write(x, 1, lane, cut[lane], -1);
+            check.due("a draw of -1", x.roll(0, 1, lane, 0), MarbleVotes.OUTSIDE);
+            Hills.write(x, 1, lane, Integer.MIN_VALUE + 8, Integer.MAX_VALUE);
+            check.due("a draw far off", x.roll(0, 1, lane, 0), MarbleVotes.OUTSIDE);
         }
     }
 

@@ -6,7 +6,8 @@ import java.util.Random;
 
 /** Runs of calls made by a told seed, answered by the program and by the slow model: all promises together. */
 public final class RunsTest {
-    private static final int RUNS = 300, TURNS = 120;
+    /** An object is used for 512 calls at most; a turn makes at most as many as a text has codes, and some more. */
+    private static final int RUNS = 400, MOST_CALLS = 512, MOST_OF_A_TURN = 100;
     private static final Check check = new Check("RunsTest");
     private static final Map<String, Method> ofProgram = methods(MarbleVotes.class);
     private static final Map<String, Method> ofModel = methods(Model.class);
@@ -15,13 +16,15 @@ public final class RunsTest {
     private final MarbleVotes program = new MarbleVotes();
     private final Model model = new Model();
     private final StringBuilder calls = new StringBuilder();
+    private int called = 0;
 
     private RunsTest(int seed) {
         random = new Random(seed);
     }
 
     public static void main(String[] args) throws ReflectiveOperationException {
-        for (int seed = 0; seed < RUNS; seed++) {
+        int runs = args.length > 0 ? Integer.parseInt(args[0]) : RUNS;
+        for (int seed = 0; seed < runs; seed++) {
             new RunsTest(seed).run();
         }
         check.end();
@@ -41,12 +44,14 @@ public final class RunsTest {
         if (random.nextInt(10) > 0) {
             writeHill();
         }
-        for (int turn = 0; turn < TURNS; turn++) {
+        while (called < MOST_CALLS - MOST_OF_A_TURN) {
             turn();
         }
+        check.holds("a run keeps to what an object is used for", called <= MOST_CALLS);
     }
 
     private long same(String name, Object... args) throws ReflectiveOperationException {
+        called++;
         String call = name + Arrays.toString(args);
         calls.append(call).append(' ');
         long got = ((Number) ofProgram.get(name).invoke(program, args)).longValue();
@@ -107,7 +112,7 @@ public final class RunsTest {
         int n = text.length() + (random.nextInt(4) == 0 ? about(5) - 3 : 0);
         same("hill", k, lane, ahead, n);
         same("hill", k, lane, ahead, text.length());
-        while (random.nextInt(6) > 0) {
+        for (int votes = random.nextInt(10); votes > 0; votes--) {
             same("vote", about(3), about(wide));
         }
     }

@@ -9,6 +9,7 @@ public final class SheetTest {
         putRefusalsInOrder();
         cellRefusalsInOrder();
         copy();
+        copyInEachLane();
         copyRefusalsInOrder();
         check.end();
     }
@@ -126,6 +127,23 @@ public final class SheetTest {
         rowIs(x, 0, Hills.INTS, 1, 2, 3, 4, 4);
         check.due("none at the ends", x.copy(0, 5, 1, 2, 0), 0);
         check.due("fault()", x.fault(), 0);
+    }
+
+    private static void copyInEachLane() {
+        for (int lane = 0; lane < 3; lane++) {
+            MarbleVotes x = new MarbleVotes();
+            Hills.write(x, 0, lane, -1, 127, -128, 5);
+            x.sheet(3, lane, 60);
+            check.due("to the end", x.copy(0, 0, 3, 56, 4), 4);
+            check.due("all over itself", x.copy(3, 0, 3, 0, 60), 60);
+            check.due("a step to the left", x.copy(3, 1, 3, 0, 59), 59);
+            int[] due = {0, -1, 127, -128, 5, 5};
+            for (int i = 54; i < 60; i++) {
+                check.due("cell " + i + " of lane " + lane, x.cell(3, i, lane), due[i - 54]);
+            }
+            check.due("from the end", x.copy(3, 55, 0, 1, 3), 3);
+            rowIs(x, 0, lane, -1, -1, 127, -128);
+        }
     }
 
     private static void copyRefusalsInOrder() {
