@@ -6,6 +6,7 @@ public final class MoveTest {
         start();
         moveOfOneCell();
         moveOfSeveral();
+        moveOfAlikeVotes();
         moveRefusals();
         answer();
         answerRefusals();
@@ -67,6 +68,32 @@ public final class MoveTest {
         check.due("a vote at a dam does not come to the cell below", x.move(0), MarbleVotes.NONE);
         check.due("the dam is in the way", x.move(1), 10);
         check.due("one vote", x.move(0), MarbleVotes.NONE);
+    }
+
+    /** Votes of one kind above one column are each a vote of their own. */
+    private static void moveOfAlikeVotes() {
+        for (int kind = 0; kind < 2; kind++) {
+            MarbleVotes x = Hills.made("m140101;....", kind, 0, kind, 2);
+            String told = " of kind " + kind;
+            // A peg leads a marble to troughs 1 and 3, both the party's, and is told ahead of leaning.
+            int ofTwo = kind == 0 ? 21 : 22;
+            check.due("one and one: the least cell," + told, x.move(1), 3);
+            x.vote(kind, 2);
+            check.due("one and two," + told, x.move(1), ofTwo);
+            check.due("what is expected before it," + told, x.expects(0, 0), 3);
+            x.vote(kind, 0);
+            check.due("two and two: the least cell," + told, x.move(1), 3);
+            check.due("answer by one who had all," + told, x.answer(1, 0), 0);
+            x.vote(kind, 2);
+            check.due("two and three," + told, x.move(1), ofTwo);
+            check.due("answer sets it back," + told, x.answer(1, 0), 20);
+        }
+        MarbleVotes x = Hills.made("m140101;#.#.", 2, 0, 2, 2, 2, 2);
+        check.due("two lead ones behind a dam", x.move(0), 20);
+        x.vote(2, 0);
+        check.due("two and two lead ones", x.move(0), 0);
+        x = Hills.made("m140101;....", 0, 0, 1, 2, 0, 2);
+        check.due("one, and two of two kinds", x.move(1), 22);
     }
 
     private static void moveRefusals() {
